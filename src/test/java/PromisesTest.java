@@ -165,11 +165,11 @@ public final class PromisesTest {
         fault(nine + "wide 0)", 69);
     }
 
-    /** Of a test alone: how much is loved of name 1 (kind 2, v 3, letters 5, column 16) above. */
+    /** Of a test alone: how much is loved of name 1 (kind 2, v 3, letters 6, column 17) above. */
     private static void test(String e, boolean is) {
         NamesNoTouch x = new NamesNoTouch();
         x.dot(NAME, 0, 1, 0, 0);
-        x.dot(COASTAL, 3, 5, 16, 3);
+        x.dot(COASTAL, 3, 6, 17, 3);
         due("7: map " + e, read(x, "love 20 " + e), 0);
         due("7: " + e, x.good(1, ABOVE), is ? 30 : 10);
     }
@@ -188,10 +188,16 @@ public final class PromisesTest {
         test("x=5", true);
         test("x>5", false);
         test("x<6", true);
-        test("l=5", true);
+        test("l=6", true);
         test("l>10", false);
-        test("!l=5", false);
-        test("!!l=5", true);
+        test("l<99", true);
+        test("n<99", true);
+        test("n>99", false);
+        test("!l=6", false);
+        test("!!l=6", true);
+        test("n<0", false);
+        test("n=1|n<0", true);
+        test("n=1&!n<0", true);
         test("n=1|n=0&n=0", true);
         test("(n=1|n=0)&n=0", false);
         test("n=0&n=0|n=1", true);
@@ -221,6 +227,7 @@ public final class PromisesTest {
             due("4: dot " + i, x.dot(i, 9, 9, i == 6 ? 29 : i, 11), i);
         }
         due("4: full", x.dot(0, 0, 1, 8, 0), FULL);
+        due("4: the first is there", x.dot(0, 0, 1, 0, 11), BAD);
         due("4: there ahead of full", x.dot(0, 0, 1, 29, 11), BAD);
         due("4: kind ahead of full", x.dot(7, 0, 1, 8, 0), NONE);
     }
@@ -273,6 +280,32 @@ public final class PromisesTest {
         due("5: FREE", x.of(2, 9), 7);
         due("5: FITS", x.of(2, 8), 15);
         due("5: its own is no hindrance", x.of(3, 9), 14);
+        NamesNoTouch y = new NamesNoTouch();
+        y.dot(NAME, 0, 3, 10, 5);
+        y.dot(NAME, 0, 3, 6, 5);
+        y.dot(NAME, 0, 3, 6, 6);
+        y.dot(NAME, 0, 3, 9, 6);
+        due("5: the first's dot is just not in it, one is below", y.of(1, 8), 7);
+        due("5: dots around it", y.of(0, 8), 15);
+        y.lay(1, RIGHT);
+        due("5: left of one would be right of another", y.of(0, 9), 13);
+        y.lift(1);
+        y.lay(0, LEFT);
+        due("5: and the other way round", y.of(1, 9), 6);
+        NamesNoTouch v = new NamesNoTouch();
+        v.dot(NAME, 0, 1, 9, 9);
+        v.dot(NAME, 0, 1, 8, 9);
+        due("5: the first's dot in it", v.of(1, 8), 14);
+        due("5: the second's dot in it", v.of(0, 8), 13);
+        NamesNoTouch z = new NamesNoTouch();
+        z.dot(NAME, 0, 3, 5, 5);
+        z.dot(NAME, 0, 4, 1, 7);
+        due("5: one is just short", z.of(1, 9), 13);
+        z.dot(NAME, 0, 3, 5, 7);
+        due("5: one cell over a dot", z.of(1, 9), 12);
+        z.lay(0, BELOW);
+        z.dot(SHY, 0, 3, 3, 7);
+        due("5: one cell in common", z.of(3, 9), 8);
     }
 
     private static void row() {
@@ -364,6 +397,13 @@ public final class PromisesTest {
         due("10: as far to another is not nearer", x.told(4), 0);
         x.dot(NAME, 0, 1, 8, 4);
         due("10: nearer to another", x.told(4), 1);
+        NamesNoTouch y = new NamesNoTouch();
+        y.dot(NAME, 0, 1, 12, 4);
+        y.dot(NAME, 0, 7, 8, 6);
+        y.lay(1, ABOVE);
+        due("10: nearer to the first", y.told(4), 2);
+        y.lift(1);
+        due("10: out", y.told(4), 0);
         due("10: what 6", x.told(6), UNTOLD);
         due("10: what -1", x.told(-1), UNTOLD);
     }
@@ -379,8 +419,14 @@ public final class PromisesTest {
         due("11: none", x.clash(0, ABOVE, 1, BELOW), 0);
         due("11: side by side", x.clash(0, LEFT, 1, RIGHT), 0);
         due("11: left of one, right of the other", x.clash(0, RIGHT, 1, LEFT), 1);
+        x.dot(CITY, 0, 9, 0, 5);
+        x.dot(CITY, 0, 9, 1, 5);
+        x.dot(CITY, 0, 9, 29, 7);
+        x.dot(CITY, 0, 9, 28, 7);
+        due("11: the furthest left", x.clash(2, LEFT, 3, LEFT), 13);
+        due("11: the furthest right", x.clash(4, RIGHT, 5, RIGHT), 13);
         due("11: one is both", x.clash(1, 0, 1, 2), BAD);
-        due("11: one is both, but there is none", x.clash(2, 0, 2, 0), NONE);
+        due("11: one is both, but there is none", x.clash(6, 0, 6, 0), NONE);
         due("11: place", x.clash(1, 4, 1, 0), NONE);
         due("11: where", x.clash(0, 0, 1, -1), NONE);
         due("11: other", x.clash(0, 0, -1, 0), NONE);
@@ -465,6 +511,7 @@ public final class PromisesTest {
         NamesNoTouch x = vying();
         due("15: without any", new NamesNoTouch().all(1), 1);
         due("15: below", x.all(8), 1);
+        due("15: all four", x.all(15), 1);
         due("15: above", x.all(4), 0);
         due("15: either", x.all(12), 1);
         due("15: right and left", x.all(3), 0);
@@ -534,6 +581,14 @@ public final class PromisesTest {
         z.lay(4, BELOW);
         z.lay(5, ABOVE);
         due("17: one is moved", z.moved(3), 1);
+        NamesNoTouch w = new NamesNoTouch();
+        w.dot(HARBOUR, 0, 3, 5, 5);
+        w.dot(COASTAL, 0, 3, 6, 4);
+        w.dot(COASTAL, 0, 3, 7, 3);
+        w.lay(1, BELOW);
+        due("17: moved to the right", w.moved(0), 1);
+        w.lay(2, BELOW);
+        due("17: two are moved to the right", w.moved(0), 2);
     }
 
     private static void movedOfWhatDoesNotFit() {
@@ -591,6 +646,14 @@ public final class PromisesTest {
         due("19: the greatest score", y.order(-1), 26);
         due("19: the second ahead of the first", y.order(0) * 10 + y.order(1), 10);
         due("19: not so in line", y.inline(1), 25);
+        NamesNoTouch z = new NamesNoTouch();
+        z.dot(NAME, 0, 3, 5, 5);
+        z.dot(TOLD, 0, 3, 20, 10);
+        z.dot(HARBOUR, 0, 3, 4, 6);
+        read(z, "love 2 n=0&p=0;love 4 n=0&p=3");
+        due("19: one is out in any", z.order(-2), 2);
+        due("19: SCORE", z.order(-1), 22);
+        due("19: the one that is out comes first", z.order(0) * 100 + z.order(1) * 10 + z.order(2), 120);
     }
 
     private static void far() {
@@ -649,6 +712,10 @@ public final class PromisesTest {
         due("22: below alone, though they clash", x.can(0), 8);
         x.see(0, 5, true);
         due("22: none", x.can(0), 0);
+        NamesNoTouch y = new NamesNoTouch();
+        y.dot(NAME, 0, 1, 1, 0);
+        y.see(0, 0, true);
+        due("22: the first cell of all", y.can(0), 2);
         due("22: name", x.can(2), NONE);
         due("22: name", x.can(-1), NONE);
     }
