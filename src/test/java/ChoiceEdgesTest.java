@@ -17,6 +17,7 @@ public final class ChoiceEdgesTest {
         mostOfSeveralTheGreatestScore();
         mostOfSeveralTheFirstRow();
         mostHasPlacesAheadOfOut();
+        oneCellInCommonIsAClash();
         bestOfWhatThereIsNot();
         bestByAScoreOfNothing();
         bestOfSeveralTheFirstRow();
@@ -188,6 +189,31 @@ public final class ChoiceEdgesTest {
         due("13: now the second is in", x.most(11), BELOW);
         due("13: the first is out", x.most(10), NOWHERE);
         due("13: SCORE", x.most(1), 10);
+    }
+
+    /** A name at its right, in columns 6 to 8, and one of one letter below its dot in some column. */
+    private static void inByColumn(int column, int in) {
+        NamesNoTouch x = Made.told("", RIGHT, 3, 5, 5);
+        x.dot(TOLD, 0, 1, column, 4);
+        x.row(1, BELOW, 1);
+        due("13: how many, " + column, x.most(0), in);
+        due("13: SCORE, " + column, x.most(1), 10 * in);
+        due("14: SCORE, " + column, x.best(0), 10 * in);
+        due("15: all, " + column, x.all(15), in - 1);
+        due("16: room, " + column, x.room(), in == 2 ? 10 : NOWHERE);
+        due("18: how many, " + column, x.inline(0), in);
+        due("19: how many, " + column, x.order(-2), in);
+        x.lay(1, BELOW);
+        due("17: moved, " + column, x.moved(0), in == 2 ? 0 : NOWHERE);
+        x.lift(1);
+        x.lay(0, RIGHT);
+        due("17: moved the other way round, " + column, x.moved(1), in == 2 ? 0 : NOWHERE);
+    }
+
+    private static void oneCellInCommonIsAClash() {
+        inByColumn(6, 1);
+        inByColumn(8, 1);
+        inByColumn(9, 2);
     }
 
     private static void bestOfWhatThereIsNot() {
@@ -420,6 +446,7 @@ public final class ChoiceEdgesTest {
             due("18: what " + what, x.inline(what), UNTOLD);
         }
         NamesNoTouch y = Made.told("", RIGHT, 3, 5, 5);
+        due("18: at its right, there being no other place", y.inline(0), 1);
         y.dot(TOLD, 0, 3, 6, 4);
         y.row(1, BELOW, 1);
         due("18: out, if it is free nowhere", y.inline(0), 1);
@@ -467,6 +494,17 @@ public final class ChoiceEdgesTest {
         NamesNoTouch y = vying("love 1 p=3");
         y.dot(NAME, 0, 1, 20, 1);
         orderIs("the third where it may", y, "102");
+        NamesNoTouch z = Made.told("love 1 p=3", RIGHT, 3, 5, 5);
+        z.row(0, BELOW, 1);
+        z.dot(HARBOUR, 0, 3, 4, 6);
+        due("19: both", z.order(-2), 2);
+        orderIs("the first at its right, behind the harbour", z, "10");
+        NamesNoTouch w = Made.told("love 1 p=3", RIGHT, 3, 5, 5);
+        w.row(0, BELOW, 1);
+        w.dot(TOLD, 0, 3, 20, 1);
+        w.dot(HARBOUR, 0, 3, 4, 6);
+        due("19: two of three", w.order(-2), 2);
+        orderIs("one that is out by any, where it comes first", w, "120");
     }
 
     private static void orderByTheScore() {

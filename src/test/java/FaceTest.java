@@ -1,3 +1,4 @@
+import java.lang.reflect.Constructor;
 import java.lang.reflect.Field;
 import java.lang.reflect.Method;
 import java.lang.reflect.Modifier;
@@ -43,6 +44,10 @@ public final class FaceTest {
         Due.due("STATE", NamesNoTouch.STATE, -3);
         Due.due("FULL", NamesNoTouch.FULL, -4);
         Due.due("NO", NamesNoTouch.NO, Long.MIN_VALUE);
+        sizes(NamesNoTouch.class);
+        for (Class<?> c : NamesNoTouch.class.getDeclaredClasses()) {
+            sizes(c);
+        }
         language();
         Due.close();
     }
@@ -68,6 +73,22 @@ public final class FaceTest {
                 Due.due("no public method's name in " + c.getName() + ": " + m.getName(),
                         names.contains(m.getName()) ? 0 : 1, 1);
             }
+        }
+    }
+
+    private static void sizes(Class<?> c) {
+        int fields = 0;
+        for (Field f : c.getDeclaredFields()) {
+            boolean isConstant = Modifier.isStatic(f.getModifiers());
+            fields += isConstant ? 0 : 1;
+            Due.due("static and not final: " + f, !isConstant || Modifier.isFinal(f.getModifiers()) ? 1 : 0, 1);
+        }
+        Due.due("fields of " + c.getName(), fields <= 20 ? 1 : 0, 1);
+        for (Method m : c.getDeclaredMethods()) {
+            Due.due("parameters of " + m, m.getParameterCount() <= 7 ? 1 : 0, 1);
+        }
+        for (Constructor<?> made : c.getDeclaredConstructors()) {
+            Due.due("parameters of " + made, made.getParameterCount() <= 7 ? 1 : 0, 1);
         }
     }
 

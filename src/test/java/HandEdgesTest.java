@@ -18,6 +18,7 @@ public final class HandEdgesTest {
         canByEachCell();
         canBeOut();
         canByTheOthers();
+        canByNothingThatWasSeenAhead();
         canOfWhatThereIsNot();
         firmByNothingSeen();
         firmAtTheThirdsOfV();
@@ -159,6 +160,29 @@ public final class HandEdgesTest {
         x.lift(1);
         due("22: none is there", x.can(0), 0);
         due("22: where it may not be, too", Made.one("", Made.HARBOUR, 0, 1, 5, 5).can(0), 31);
+    }
+
+    private static void canByNothingThatWasSeenAhead() {
+        NamesNoTouch x = Made.one("", NAME, 0, 1, 1, 0);
+        x.lay(0, LEFT);
+        for (int i = 0; i < 5; i++) {
+            x.see(i, 9, true);
+        }
+        due("22: by five", x.can(0), 0);
+        x.see(-1, 0, true);
+        due("22: by none", x.can(0), 31);
+        due("23: by none", x.firm(0, 0), 10);
+        for (int i = 1; i <= 5; i++) {
+            x.see(9, i, false);
+            due("22: by " + i + ", and not by those ahead", x.can(0), 31);
+            due("23: by " + i + ", and not by those ahead", x.firm(0, 0), 10);
+        }
+        NamesNoTouch y = Made.one("", NAME, 0, 1, 1, 0);
+        y.lay(0, LEFT);
+        for (int i = 1; i <= 5; i++) {
+            y.see(9, i, false);
+            due("22: the first cell of all is not seen, " + i, y.can(0), 31);
+        }
     }
 
     private static void canOfWhatThereIsNot() {

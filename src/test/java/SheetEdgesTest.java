@@ -21,6 +21,7 @@ public final class SheetEdgesTest {
         lengthsByV();
         whereKindsMayBe();
         toldOnesMayBeByTheirRow();
+        sevenToldOnesHaveEachARowOfTheirOwn();
         rowsAtTheirEdges();
         cellsOfEachPlace();
         fitsToTheSheetsEnds();
@@ -28,6 +29,7 @@ public final class SheetEdgesTest {
         fitsOverNoDot();
         freeIsNotHinderedByItself();
         freeByACellOfAnother();
+        freeAtEachPlaceByOneCell();
         goodOfWhatThereIsNot();
         theRiverAtEachEndOfTheCells();
         theRiverOffTheSheet();
@@ -192,6 +194,25 @@ public final class SheetEdgesTest {
         due("8: but can't be laid there", x.lay(0, RIGHT), STATE);
     }
 
+    private static void sevenToldOnesHaveEachARowOfTheirOwn() {
+        NamesNoTouch x = new NamesNoTouch();
+        for (int i = 0; i < 7; i++) {
+            x.dot(TOLD, 0, 1, 3 * i + 1, 5);
+        }
+        for (int i = 0; i < 7; i++) {
+            for (int k = 0; k < 4; k++) {
+                due("6: of " + i + ", place " + k, x.row(i, k, (i + k) % 10), 0);
+            }
+        }
+        for (int i = 0; i < 7; i++) {
+            due("5: MAY of " + i, x.of(i, 7), i == 0 ? 14 : 15);
+            for (int k = 0; k < 4; k++) {
+                due("6: what it was, " + i + ", place " + k, x.row(i, k, 0), (i + k) % 10);
+            }
+            due("5: it may nowhere then, " + i, x.of(i, 7), 0);
+        }
+    }
+
     private static void rowsAtTheirEdges() {
         NamesNoTouch x = Made.one("", TOLD, 0, 1, 5, 5);
         x.dot(Made.SHY, 0, 1, 5, 7);
@@ -290,6 +311,9 @@ public final class SheetEdgesTest {
         NamesNoTouch x = Made.one("", NAME, 0, 3, 10, 5);
         x.dot(TOLD, 0, 1, column, row);
         due("5: FITS with a dot in " + column + " " + row, x.of(0, 8), want);
+        NamesNoTouch y = Made.one("", TOLD, 0, 1, column, row);
+        y.dot(NAME, 0, 3, 10, 5);
+        due("5: FITS with an earlier dot in " + column + " " + row, y.of(1, 8), want);
     }
 
     private static void fitsOverNoDot() {
@@ -335,6 +359,27 @@ public final class SheetEdgesTest {
         x.lay(2, LEFT);
         due("5: beside its last cell", x.of(0, 9), 15);
         due("5: its first cells", x.of(1, 9), 11);
+    }
+
+    /** Another, of one letter, in the last cell of a place, or just beside it. */
+    private static void freeBeside(int place, int column, int row, int otherPlace, boolean isIn) {
+        NamesNoTouch x = Made.one("", NAME, 0, 3, 10, 5);
+        x.dot(NAME, 0, 1, column, row);
+        x.lay(1, otherPlace);
+        due("5: FREE but at " + place, x.of(0, 9), isIn ? 15 - (1 << place) : 15);
+        due("8: at " + place, x.lay(0, place), isIn ? STATE : NOWHERE);
+        due("11: in common", x.clash(0, place, 1, otherPlace), isIn ? 1 : 0);
+    }
+
+    private static void freeAtEachPlaceByOneCell() {
+        freeBeside(RIGHT, 13, 4, BELOW, true);
+        freeBeside(RIGHT, 14, 4, BELOW, false);
+        freeBeside(LEFT, 7, 4, BELOW, true);
+        freeBeside(LEFT, 6, 4, BELOW, false);
+        freeBeside(ABOVE, 12, 3, BELOW, true);
+        freeBeside(ABOVE, 13, 3, BELOW, false);
+        freeBeside(BELOW, 12, 7, ABOVE, true);
+        freeBeside(BELOW, 13, 7, ABOVE, false);
     }
 
     private static void goodOfWhatThereIsNot() {
@@ -464,6 +509,13 @@ public final class SheetEdgesTest {
         due("10: out", x.told(4), 0);
     }
 
+    private static void mistakenForAnEarlierOne(int column, int want) {
+        NamesNoTouch x = Made.one("", NAME, 0, 1, column, 3);
+        x.dot(NAME, 0, 5, 10, 5);
+        x.lay(1, ABOVE);
+        due("10: an earlier dot in column " + column, x.told(4), want);
+    }
+
     private static void asNearIsNotMistaken() {
         mistaken(5, RIGHT, 16, 5, -1);
         mistaken(4, RIGHT, 16, 5, -1);
@@ -472,6 +524,11 @@ public final class SheetEdgesTest {
         mistaken(5, ABOVE, 14, 3, -1);
         mistaken(4, BELOW, 14, 7, -1);
         mistaken(1, RIGHT, 12, 5, -1);
+        mistakenForAnEarlierOne(14, 0);
+        mistakenForAnEarlierOne(13, 2);
+        mistakenForAnEarlierOne(12, 2);
+        mistakenForAnEarlierOne(11, 2);
+        mistakenForAnEarlierOne(10, 0);
     }
 
     private static void clashesAtTheirEdges() {
