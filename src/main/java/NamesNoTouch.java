@@ -783,10 +783,11 @@ public final class NamesNoTouch {
                 return false;
             }
             position++;
-            if (sign == '(') {
-                return readsEither(open + 1) && takes(')');
-            }
-            if (!readsOne(open + 1)) {
+            return sign == '(' ? readsEither(open + 1) && takes(')') : readsOpposite(open + 1);
+        }
+
+        private boolean readsOpposite(int open) {
+            if (!readsOne(open)) {
                 return false;
             }
             code.add(NOT);
@@ -1309,10 +1310,14 @@ public final class NamesNoTouch {
             }
             for (int place = RIGHT; place <= OUT; place++) {
                 if (isOpen(i, place, blocked)) {
-                    now.set(i, place);
-                    goOn(i + 1, blocked | clashesOf(i, place), sum + valueOf(i, place), hope - tops.get(i));
+                    goBy(i, place, blocked, sum, hope);
                 }
             }
+        }
+
+        private void goBy(int i, int place, int blocked, int sum, int hope) {
+            now.set(i, place);
+            goOn(i + 1, blocked | clashesOf(i, place), sum + valueOf(i, place), hope - tops.get(i));
         }
 
         private void lineUp(int k, int used, int blocked, int sum, int hope) {
@@ -1325,12 +1330,16 @@ public final class NamesNoTouch {
             }
             for (int i = 0; i < dots; i++) {
                 if (!hasBit(used, i)) {
-                    int place = dearest(i, blocked);
-                    now.set(k, i);
-                    lineUp(k + 1, used | (1 << i), blocked | clashesOf(i, place),
-                            sum + valueOf(i, place), hope - tops.get(i));
+                    lineUpWith(i, k, used, blocked, sum, hope);
                 }
             }
+        }
+
+        private void lineUpWith(int i, int k, int used, int blocked, int sum, int hope) {
+            int place = dearest(i, blocked);
+            now.set(k, i);
+            lineUp(k + 1, used | (1 << i), blocked | clashesOf(i, place),
+                    sum + valueOf(i, place), hope - tops.get(i));
         }
 
         private void find(int sum) {
